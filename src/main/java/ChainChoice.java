@@ -46,7 +46,7 @@ public final class ChainChoice {
     private final Chains list = new Chains();
     private final Filters filters = new Filters();
     private final Packers packers = new Packers();
-    private final Unpacker unpacker = new Unpacker(out);
+    private final Unpacker unpacker = new Unpacker();
     private final Traits traits = new Traits();
     private final int[] choice = new int[TOLD_KINDS];
     private final int[] lessons = new int[FEATURES];
@@ -259,7 +259,7 @@ public final class ChainChoice {
     }
 
     public int unpack() {
-        unpacker.readHead();
+        unpacker.readHead(out);
         unpacker.readBody();
         int fault = unpacker.finish(text);
         faultPlace = fault == 0 ? NO : unpacker.faultPlace();
@@ -907,9 +907,6 @@ public final class ChainChoice {
         }
 
         int readFrom(Reader in) {
-            if (known == 1) {
-                return readAlone(in);
-            }
             int code = 0;
             int first = 0;
             int before = 0;
@@ -919,17 +916,14 @@ public final class ChainChoice {
                 if (within < ofLength[length]) {
                     return ranked[(before + within) & 255];
                 }
+                // One byte alone leaves the code 1 unused; of more bytes every row of bits tells one.
+                if (known == 1) {
+                    in.blame(FAULT_ITEM);
+                }
                 before += ofLength[length];
                 first = (first + ofLength[length]) << 1;
             }
             return 0;
-        }
-
-        private int readAlone(Reader in) {
-            if (in.bit() != 0) {
-                in.blame(FAULT_ITEM);
-            }
-            return ranked[0];
         }
     }
 
@@ -1123,18 +1117,15 @@ public final class ChainChoice {
 
     /** Goes along OUT byte by byte and bit by bit; behind a FAULT it reads 0s and keeps that first one. */
     private static final class Reader {
-        private final Row from;
+        private Row from = new Row(0);
         private int at = 0;
         private int held = 0;
         private int left = 0;
         private int fault = 0;
         private int faultPlace = 0;
 
-        Reader(Row row) {
+        void begin(Row row) {
             from = row;
-        }
-
-        void begin() {
             at = 0;
             held = 0;
             left = 0;
@@ -1202,7 +1193,7 @@ public final class ChainChoice {
 
     /** Reads OUT as PACKED by any FILTERS and PACKER. */
     private static final class Unpacker {
-        private final Reader in;
+        private final Reader in = new Reader();
         private final int[] kinds = new int[MOST_IN_CHAIN];
         private final int[] values = new int[MOST_IN_CHAIN];
         private final int[] unlike = new int[BYTES];
@@ -1214,16 +1205,12 @@ public final class ChainChoice {
         private int packerKind = STORED;
         private int count = 0;
 
-        Unpacker(Row row) {
-            in = new Reader(row);
-        }
-
         int faultPlace() {
             return in.faultPlace();
         }
 
-        void readHead() {
-            in.begin();
+        void readHead(Row packed) {
+            in.begin(packed);
             made.empty();
             readFilters();
             packerKind = in.next();

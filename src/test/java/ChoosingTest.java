@@ -162,15 +162,22 @@ public final class ChoosingTest {
         due.promise("FLAT, edges");
         for (int n : new int[] {64, 95, 96, 127, 128, 300}) {
             for (int more = 0; more < 2; more++) {
-                ChainChoice x = new ChainChoice();
-                int most = 2 + n / 32 + more;
-                for (int i = 0; i < n; i++) {
-                    x.add(i < most ? 255 : (i - most) % 200);
-                }
-                x.choose(0, 0);
-                due.is("told(5) of " + n + ", " + most, x.told(5), 1 - more);
+                flatBy(n, more, 0);
+                flatBy(n, more, 77);
+                flatBy(n, more, 255);
             }
         }
+    }
+
+    /** One byte stands there as often as it may, or once more. */
+    private static void flatBy(int n, int more, int b) {
+        ChainChoice x = new ChainChoice();
+        int most = 2 + n / 32 + more;
+        for (int i = 0; i < n; i++) {
+            x.add(i < most ? b : (b + 1 + (i - most) % 200) % 256);
+        }
+        x.choose(0, 0);
+        due.is("told(5) of " + n + " with " + most + " of " + b, x.told(5), 1 - more);
     }
 
     private static void learn() {

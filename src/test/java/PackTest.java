@@ -14,6 +14,7 @@ public final class PackTest {
         bits();
         prefix();
         matches();
+        again();
         alter();
         cut();
         due.end();
@@ -149,6 +150,8 @@ public final class PackTest {
         to(PREFIX, new int[] {3, 3, 3, 2, 2, 1}, 2, 1, 2, 2, 2, 3, 1, 0b00011111, 0);
         // Of like weights bytes come before what was joined: 1 and 2 are joined, not 1 and (3, 4).
         to(PREFIX, new int[] {1, 1, 2, 2, 3, 4}, 3, 1, 2, 2, 2, 3, 2, 4, 2, 5, 176);
+        to(PREFIX, new int[] {0, 0, 255}, 1, 0, 1, 255, 1, 0b00100000);
+        to(PREFIX, rising(256), join(join(new int[] {255}, eights()), rising(256)));
         // 1 and 2, then 3 and the two: of like ones the first.
         to(PREFIX, new int[] {1, 2, 3}, 2, 1, 2, 2, 2, 3, 1, 0b10110000);
         // 1 2, 3 4, then 5 is joined with (1 2), the first joined: (3 4) stays nearer.
@@ -186,6 +189,10 @@ public final class PackTest {
         to(MATCHES, many(7, 10), 0, 7, 134, 1);
         // Of like ones the least d.
         to(MATCHES, new int[] {1, 2, 3, 1, 2, 3, 9, 1, 2, 3}, 2, 1, 2, 3, 128, 3, 0, 9, 128, 4);
+        to(MATCHES, new int[] {1, 2, 3, 1, 2, 3, 9, 1, 2, 3, 8}, 2, 1, 2, 3, 128, 3, 0, 9, 128, 4, 0, 8);
+        to(MATCHES, new int[] {1, 2, 3, 1, 9, 3, 2, 2, 3}, 8, 1, 2, 3, 1, 9, 3, 2, 2, 3);
+        to(MATCHES, many(0, 10), 0, 0, 134, 1);
+        to(MATCHES, new int[] {0, 0, 0}, 2, 0, 0, 0);
         // The longest, although it is farther.
         to(MATCHES, new int[] {1, 2, 3, 4, 9, 1, 2, 3, 8, 1, 2, 3, 4}, 4, 1, 2, 3, 4, 9, 128, 5, 0, 8, 129, 9);
         to(MATCHES, many(7, 131), 0, 7, 255, 1);
@@ -199,6 +206,45 @@ public final class PackTest {
         int[] far = join(rising(256), 0, 1, 2);
         to(MATCHES, far, join(join(join(new int[] {127}, rising(128)), join(new int[] {127}, span(128, 256))),
             2, 0, 1, 2));
+    }
+
+    /** What one call has left in the tables does not reach the next one. */
+    private static void again() {
+        due.promise("18 pack, one after another");
+        int[][] texts = {rising(256), {0, 5, 5, 5, 1}, {9}, many(7, 20), {1, 1, 2, 2, 3, 4}, {3, 3, 0, 0, 255, 254}};
+        ChainChoice x = new ChainChoice();
+        x.filter(2, 0);
+        for (int kind = 1; kind <= 4; kind++) {
+            x.packer(kind);
+        }
+        for (int turn = 0; turn < 2; turn++) {
+            for (int[] text : texts) {
+                for (int k = 0; k < x.chains(); k++) {
+                    ChainChoice fresh = Due.of(text);
+                    fresh.filter(2, 0);
+                    for (int kind = 1; kind <= 4; kind++) {
+                        fresh.packer(kind);
+                    }
+                    x.clear();
+                    Due.put(x, text);
+                    due.is("pack(" + k + ")", x.pack(k), fresh.pack(k));
+                    due.row("OUT", x, 1, Due.row(fresh, 1));
+                    x.clear();
+                    due.is("unpack()", x.unpack(), text.length);
+                    due.row("back again", x, 0, text);
+                }
+            }
+        }
+    }
+
+    /** Each byte with the LENGTH 8. */
+    private static int[] eights() {
+        int[] row = new int[512];
+        for (int b = 0; b < 256; b++) {
+            row[2 * b] = b;
+            row[2 * b + 1] = 8;
+        }
+        return row;
     }
 
     private static void alter() {

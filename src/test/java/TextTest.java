@@ -80,7 +80,7 @@ public final class TextTest {
         due.is("size(0)", x.size(0), 0);
         for (int seed : new int[] {0, 1, 5, -7, Integer.MAX_VALUE, Integer.MIN_VALUE, 123456789}) {
             for (int how = 0; how < 4; how++) {
-                for (int n : new int[] {1, 2, 17, 150}) {
+                for (int n : new int[] {1, 2, 17, 298}) {
                     filled(n, seed, how);
                 }
             }

@@ -13,6 +13,7 @@ public final class UnpackTest {
         matches();
         filters();
         latest();
+        afterFault();
         due.end();
     }
 
@@ -202,6 +203,39 @@ public final class UnpackTest {
         due.reads(new int[] {2, 4, 1, 4, 1, 1, 0, 3, 129, 7}, 7, 7, 7);
         due.reads(new int[] {2, 1, 1, 4, 1, 0, 0, 2, 0, 0}, 1, 2);
         due.reads(new int[] {2, 4, 1, 1, 1, 0, 0, 2, 0, 3}, 1, 2);
+    }
+
+    /** What a FAULT, or another text, has left does not reach the next unpack(). */
+    private static void afterFault() {
+        due.promise("21 unpack: once more");
+        // A FAULT amid the bits of a byte; then the same OUT without it.
+        ChainChoice x = Due.withOut(0, 3, 0, 9, 0, 7, 1, 16, 0);
+        due.is("unpack()", x.unpack(), -14);
+        due.is("place()", x.place(), 7);
+        x.alter(7, 0);
+        due.is("unpack()", x.unpack(), 9);
+        due.row("the text", x, 0, 7, 7, 7, 7, 7, 7, 7, 7, 7);
+        x = Due.withOut(0, 2, 0, 3, 2, 7, 8, 9, 0b11000000);
+        due.is("unpack()", x.unpack(), -14);
+        x.alter(8, 0b10010000);
+        due.is("unpack()", x.unpack(), 3);
+        due.row("the text", x, 0, 9, 8, 7);
+        // Other LENGTHS for other bytes.
+        x = Due.withOut(0, 3, 0, 2, 1, 7, 1, 9, 1, 0b10000000);
+        due.is("unpack()", x.unpack(), 2);
+        x.alter(5, 8);
+        due.is("unpack()", x.unpack(), 2);
+        due.row("the text", x, 0, 9, 8);
+        x.alter(6, 2);
+        due.is("unpack()", x.unpack(), -14);
+        due.is("place()", x.place(), 8);
+        // Two FILTERS, then none.
+        x = Due.withOut(2, 4, 3, 4, 1, 0, 0, 1, 0);
+        due.is("unpack()", x.unpack(), 1);
+        due.row("the text", x, 0, 2);
+        x.pack(0);
+        due.is("unpack()", x.unpack(), 1);
+        due.row("the text", x, 0, 2);
     }
 
     private static void latest() {
