@@ -1,13 +1,34 @@
+import java.io.IOException;
+import java.nio.file.Files;
+import java.nio.file.Path;
 import java.util.Arrays;
 
 /** Compares answers with those that are due, and helps the tests to set texts and OUT. */
 final class Due {
+    private static final String DOCUMENT = document();
+
     private int wrong = 0;
     private int checks = 0;
     private String topic = "";
 
     void promise(String name) {
         topic = name;
+    }
+
+    /** The sentence of the document that the next answers hold; it must stand there in these words. */
+    void sentence(String words) {
+        topic = words;
+        yes("the document's words", DOCUMENT.isEmpty() || DOCUMENT.contains(words));
+    }
+
+    /** The document on one line, or nothing where it does not lie beside the project. */
+    private static String document() {
+        Path path = Path.of("../shared/DOC.md");
+        try {
+            return Files.exists(path) ? Files.readString(path).replaceAll("\\s+", " ") : "";
+        } catch (IOException e) {
+            return "";
+        }
     }
 
     void is(String call, long got, long want) {
@@ -19,8 +40,11 @@ final class Due {
     }
 
     void row(String what, ChainChoice x, int which, int... want) {
+        same(what, row(x, which), want);
+    }
+
+    void same(String what, int[] got, int... want) {
         checks++;
-        int[] got = row(x, which);
         if (!Arrays.equals(got, want)) {
             wrong++;
             System.out.println(topic + ": " + what + " is " + Arrays.toString(got)

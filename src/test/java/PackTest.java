@@ -1,7 +1,7 @@
 import java.util.Arrays;
 
 /** Promises 18 to 20: pack (with each filter and packer), alter, cut. */
-public final class PackTest {
+public final class PackTest extends Rows {
     private static final int BAD = ChainChoice.BAD;
     private static final int STORED = 0, RUNS = 1, BITS = 2, PREFIX = 3, MATCHES = 4;
     private static final Due due = new Due();
@@ -285,29 +285,5 @@ public final class PackTest {
         due.is("cut(0)", x.cut(0), 4);
         due.is("size(1)", x.size(1), 0);
         due.row("the text", x, 0, 8, 9);
-    }
-
-    private static int[] join(int[] one, int... two) {
-        int[] both = Arrays.copyOf(one, one.length + two.length);
-        System.arraycopy(two, 0, both, one.length, two.length);
-        return both;
-    }
-
-    private static int[] many(int b, int n) {
-        int[] row = new int[n];
-        Arrays.fill(row, b);
-        return row;
-    }
-
-    private static int[] rising(int n) {
-        return span(0, n);
-    }
-
-    private static int[] span(int first, int end) {
-        int[] row = new int[end - first];
-        for (int i = 0; i < row.length; i++) {
-            row[i] = first + i;
-        }
-        return row;
     }
 }
