@@ -24,6 +24,7 @@ public final class ChoiceEdgesTest extends Rows {
         chooseEmpty();
         chooseWrong();
         toldNumbers();
+        toldNotOffered();
         toldOfFlat();
         toldLatest();
         toldWrong();
@@ -372,6 +373,27 @@ public final class ChoiceEdgesTest extends Rows {
         x.choose(10, 511);
         tells(x, 1, 10, 0, 14, 1, 0);
         due.is("told(3) is what the CHAIN packs to", x.told(3), x.chain(0, 5));
+    }
+
+    private static void toldNotOffered() {
+        due.sentence("4 how many were not OFFERED (of those looked at)");
+        // In order STORED (10 STEPS), PREFIX, RUNS (20), MATCHES; then all of them behind FRONT.
+        ChainChoice x = likeTen(3, 1, 4);
+        x.filter(2, 0);
+        x.choose(9, 0);
+        due.is("the first one ends it", x.told(4), 0);
+        x.choose(29, 0);
+        due.is("RUNS ends it", x.told(4), 1);
+        x.choose(30, 0);
+        due.is("none ends it", x.told(4), 6);
+        x.choose(199, 256);
+        due.is("FRONT with STORED ends it", x.told(4), 2);
+        x.choose(200, 256);
+        due.is("FRONT with RUNS ends it", x.told(4), 3);
+        x.choose(380, 256);
+        due.is("none ends it", x.told(4), 4);
+        x.choose(MOST, 1024);
+        due.is("all are OFFERED", x.told(4), 0);
     }
 
     private static void toldOfFlat() {

@@ -6,6 +6,7 @@ public final class TextEdgesTest extends Rows {
 
     public static void main(String[] args) {
         newObject();
+        used512Times();
         upTo300();
         clear();
         clearEmpty();
@@ -58,6 +59,21 @@ public final class TextEdgesTest extends Rows {
         due.is("clear()", x.clear(), 0);
         due.is("cut(0)", x.cut(0), 0);
         due.is("forget()", x.forget(), 1);
+    }
+
+    private static void used512Times() {
+        due.sentence("An object is used for at most 512 calls after it has been made");
+        ChainChoice x = new ChainChoice();
+        x.packer(4);
+        // Two calls before and five in each turn: the last turn ends with call 512.
+        x.filter(2, 0);
+        for (int turn = 0; turn < 102; turn++) {
+            due.is("fill()", x.fill(300, turn, turn % 4), 300);
+            due.yes("pack()", x.pack(turn % 4) > 4);
+            due.is("clear()", x.clear(), 300);
+            due.is("unpack()", x.unpack(), 300);
+            due.is("clear()", x.clear(), 300);
+        }
     }
 
     private static void upTo300() {
