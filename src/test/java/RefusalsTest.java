@@ -1,7 +1,7 @@
 import java.util.ArrayList;
 import java.util.List;
 
-/** REFUSALS change nothing: behind each of them all that can be asked is as it was. */
+/** REFUSALS change nothing: behind each of them rows, choice, lessons, chains and place are as they were. */
 public final class RefusalsTest extends Rows {
     private static final int BAD = ChainChoice.BAD, FULL = ChainChoice.FULL, NO = ChainChoice.NO;
     private static final int LEAST = Integer.MIN_VALUE, MOST = Integer.MAX_VALUE;
