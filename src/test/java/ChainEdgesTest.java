@@ -33,8 +33,8 @@ public final class ChainEdgesTest extends Rows {
     }
 
     /** Every FILTER kind and every PACKER, so that there are 85 CHAINS. */
-    private static ChainChoice whole(int... text) {
-        ChainChoice x = Due.of(text);
+    private static Tested whole(int... text) {
+        Tested x = Due.of(text);
         x.filter(1, 1);
         x.filter(2, 0);
         x.filter(3, 2);
@@ -45,8 +45,8 @@ public final class ChainEdgesTest extends Rows {
         return x;
     }
 
-    private static ChainChoice told(int filters, int packers) {
-        ChainChoice x = new ChainChoice();
+    private static Tested told(int filters, int packers) {
+        Tested x = new Tested();
         for (int i = 1; i <= filters; i++) {
             x.filter(4, i);
         }
@@ -62,7 +62,7 @@ public final class ChainEdgesTest extends Rows {
         int[] byFilters = {1, 2, 5, 10, 17};
         for (int f = 0; f <= 4; f++) {
             for (int p = 0; p <= 4; p++) {
-                ChainChoice x = told(f, p);
+                Tested x = told(f, p);
                 int want = byFilters[f] * (p + 1);
                 due.is("chains() of " + f + " and " + p, x.chains(), want);
                 due.is("the last", x.chain(want - 1, 2), p == 0 ? 0 : 5 - p);
@@ -85,7 +85,7 @@ public final class ChainEdgesTest extends Rows {
                 {2, 0}, {2, 1}, {2, 3}, {3, 0}, {3, 1}, {3, 2}}};
         for (int f = 0; f <= 4; f++) {
             for (int p = 0; p <= 4; p++) {
-                ChainChoice x = told(f, p);
+                Tested x = told(f, p);
                 for (int k = 0; k < x.chains(); k++) {
                     String of = " of " + f + " and " + p;
                     due.is("chain(" + k + ", 0)" + of, x.chain(k, 0), groups[f][k / (p + 1)][0]);
@@ -98,7 +98,7 @@ public final class ChainEdgesTest extends Rows {
 
     private static void twoUnlike() {
         due.sentence("or two unlike ones of those TOLD");
-        ChainChoice x = told(4, 0);
+        Tested x = told(4, 0);
         for (int k = 0; k < 17; k++) {
             due.yes("unlike in " + k, x.chain(k, 0) == NO || x.chain(k, 0) != x.chain(k, 1));
         }
@@ -106,7 +106,7 @@ public final class ChainEdgesTest extends Rows {
 
     private static void storedAlways() {
         due.sentence("each with STORED, then with PACKERS as they were TOLD");
-        ChainChoice x = new ChainChoice();
+        Tested x = new Tested();
         x.packer(4);
         x.packer(1);
         x.filter(1, 1);
@@ -123,7 +123,7 @@ public final class ChainEdgesTest extends Rows {
     private static void headOfPacked() {
         due.sentence("how many FILTERS (0 .. 2), for each its kind and v, the kind of the PACKER");
         int[] values = {1, 0, 2, 255};
-        ChainChoice x = whole();
+        Tested x = whole();
         for (int k = 0; k < 85; k++) {
             int[] head = {0};
             for (int which = 0; which < 2; which++) {
@@ -133,7 +133,7 @@ public final class ChainEdgesTest extends Rows {
                     head = join(head, number + 1, values[number]);
                 }
             }
-            ChainChoice y = whole();
+            Tested y = whole();
             due.is("pack(" + k + ")", y.pack(k), head.length + 3);
             due.row("OUT by " + k, y, 1, join(head, k % 5, 0, 0));
         }
@@ -142,7 +142,7 @@ public final class ChainEdgesTest extends Rows {
     private static void twoBytesOfCount() {
         due.sentence("how many bytes THE TEXT has (two bytes, the higher first)");
         for (int n : of(0, 1, 254, 255, 256, 257, 299, 300)) {
-            ChainChoice x = new ChainChoice();
+            Tested x = new Tested();
             if (n > 0) {
                 x.fill(n, n, 0);
             }
@@ -154,8 +154,8 @@ public final class ChainEdgesTest extends Rows {
     }
 
     /** 5 5 5 5 has the FEATURE 12; its choice is told and learned. */
-    private static ChainChoice chosen() {
-        ChainChoice x = Due.of(5, 5, 5, 5);
+    private static Tested chosen() {
+        Tested x = Due.of(5, 5, 5, 5);
         x.packer(1);
         x.filter(4, 5);
         due.is("choose()", x.choose(100, 0), 1);
@@ -164,7 +164,7 @@ public final class ChainEdgesTest extends Rows {
         return x;
     }
 
-    private static void stays(ChainChoice x) {
+    private static void stays(Tested x) {
         int[] want = {4, 4 * (1 + 2 + 2 + 3), 1, 6, 0, 0};
         for (int what = 0; what < 6; what++) {
             due.is("told(" + what + ") stays", x.told(what), want[what]);
@@ -173,7 +173,7 @@ public final class ChainEdgesTest extends Rows {
         due.is("learned(13)", x.learned(13), NO);
     }
 
-    private static void gone(ChainChoice x) {
+    private static void gone(Tested x) {
         for (int what = 0; what < 6; what++) {
             due.is("told(" + what + ") is gone", x.told(what), NO);
         }
@@ -186,21 +186,21 @@ public final class ChainEdgesTest extends Rows {
 
     private static void goneByFilter() {
         due.sentence(GONE);
-        ChainChoice x = chosen();
+        Tested x = chosen();
         due.is("filter(4, 5)", x.filter(4, 5), 1);
         gone(x);
     }
 
     private static void goneByPacker() {
         due.sentence(GONE);
-        ChainChoice x = chosen();
+        Tested x = chosen();
         due.is("packer(4)", x.packer(4), 2);
         gone(x);
     }
 
     private static void goneByForget() {
         due.sentence(GONE);
-        ChainChoice x = chosen();
+        Tested x = chosen();
         due.is("forget()", x.forget(), 4);
         gone(x);
         due.is("choose()", x.choose(100, 100), 0);
@@ -211,7 +211,7 @@ public final class ChainEdgesTest extends Rows {
 
     private static void notGoneOtherwise() {
         due.sentence(GONE);
-        ChainChoice x = chosen();
+        Tested x = chosen();
         due.is("filter() that is none", x.filter(1, 0), BAD);
         due.is("packer() that is none", x.packer(5), BAD);
         due.is("packer() that is told", x.packer(1), NO);
@@ -240,7 +240,7 @@ public final class ChainEdgesTest extends Rows {
 
     private static void steps() {
         due.sentence("STEPS a byte: all FILTERS 1, but FRONT 16; STORED 1, RUNS 2, BITS 2, PREFIX 4, MATCHES 64.");
-        ChainChoice x = whole();
+        Tested x = whole();
         for (int k = 0; k < 85; k++) {
             int want = STEPS_OF_PACKER[k % 5];
             for (int which = 0; which < 2; which++) {
@@ -253,7 +253,7 @@ public final class ChainEdgesTest extends Rows {
 
     private static void memory() {
         due.sentence("MEMORY: FRONT 256, BITS 256, PREFIX 1024, MATCHES 512, others 0");
-        ChainChoice x = whole();
+        Tested x = whole();
         for (int k = 0; k < 5; k++) {
             due.is("chain(" + k + ", 4)", x.chain(k, 4), MEMORY_OF_PACKER[k]);
         }
@@ -264,7 +264,7 @@ public final class ChainEdgesTest extends Rows {
 
     private static void mostOfParts() {
         due.sentence("the most of its parts counts");
-        ChainChoice x = whole();
+        Tested x = whole();
         for (int k = 0; k < 85; k++) {
             int want = MEMORY_OF_PACKER[k % 5];
             for (int which = 0; which < 2; which++) {
@@ -274,7 +274,7 @@ public final class ChainEdgesTest extends Rows {
         }
         // FRONT and BITS need 256 together, not 512.
         due.is("FRONT and BITS", x.chain(12, 4), 256);
-        ChainChoice y = new ChainChoice();
+        Tested y = new Tested();
         y.filter(2, 0);
         y.filter(2, 0);
         due.is("FRONT and FRONT", y.chain(3, 4), 256);
@@ -282,7 +282,7 @@ public final class ChainEdgesTest extends Rows {
 
     private static void filterNumber() {
         due.sentence("A FILTER is TOLD: its number, from 0. BAD, FULL.");
-        ChainChoice x = new ChainChoice();
+        Tested x = new Tested();
         for (int i = 0; i < 4; i++) {
             due.is("BAD while there is room", x.filter(2, 1), BAD);
             due.is("filter()", x.filter(1, 8 - i), i);
@@ -298,7 +298,7 @@ public final class ChainEdgesTest extends Rows {
         due.sentence("A PACKER (1 .. 4) is TOLD: how many are. BAD; NO: it is already.");
         int[][] orders = {{1, 2, 3, 4}, {4, 3, 2, 1}, {2, 4, 1, 3}};
         for (int[] order : orders) {
-            ChainChoice x = new ChainChoice();
+            Tested x = new Tested();
             for (int i = 0; i < 4; i++) {
                 due.is("packer(" + order[i] + ")", x.packer(order[i]), i + 1);
             }
@@ -307,12 +307,12 @@ public final class ChainEdgesTest extends Rows {
 
     private static void packerWrong() {
         due.sentence("A PACKER (1 .. 4) is TOLD: how many are. BAD; NO: it is already.");
-        ChainChoice x = new ChainChoice();
+        Tested x = new Tested();
         for (int kind : of(0, 5, -1, -4, 6, 255, 256, 257, Integer.MIN_VALUE, Integer.MAX_VALUE)) {
             due.is("packer(" + kind + ")", x.packer(kind), BAD);
         }
         due.is("chains()", x.chains(), 1);
-        ChainChoice y = whole();
+        Tested y = whole();
         for (int kind : of(0, 5, -1)) {
             due.is("packer(" + kind + ") where all are TOLD", y.packer(kind), BAD);
         }
@@ -321,14 +321,14 @@ public final class ChainEdgesTest extends Rows {
     private static void packerAlready() {
         due.sentence("NO: it is already.");
         for (int kind = 1; kind <= 4; kind++) {
-            ChainChoice x = new ChainChoice();
+            Tested x = new Tested();
             due.is("packer(" + kind + ")", x.packer(kind), 1);
             due.is("packer(" + kind + ") again", x.packer(kind), NO);
             due.is("chains()", x.chains(), 2);
             x.forget();
             due.is("packer(" + kind + ") behind forget()", x.packer(kind), 1);
         }
-        ChainChoice y = whole();
+        Tested y = whole();
         for (int kind = 1; kind <= 4; kind++) {
             due.is("packer(" + kind + ") where all are TOLD", y.packer(kind), NO);
         }
@@ -337,8 +337,8 @@ public final class ChainEdgesTest extends Rows {
 
     private static void forget() {
         due.sentence("No FILTERS, PACKERS are TOLD any more: how many CHAINS there were.");
-        due.is("forget() of none", new ChainChoice().forget(), 1);
-        ChainChoice x = whole(1, 2, 3);
+        due.is("forget() of none", new Tested().forget(), 1);
+        Tested x = whole(1, 2, 3);
         x.pack(0);
         due.is("forget()", x.forget(), 85);
         due.is("chains()", x.chains(), 1);
@@ -354,7 +354,7 @@ public final class ChainEdgesTest extends Rows {
 
     private static void chainFilters() {
         due.sentence("what = 0, 1 its FILTERS' numbers (NO: it has not so many)");
-        ChainChoice x = whole();
+        Tested x = whole();
         due.is("chain(0, 0)", x.chain(0, 0), NO);
         due.is("chain(4, 0)", x.chain(4, 0), NO);
         due.is("chain(4, 1)", x.chain(4, 1), NO);
@@ -372,7 +372,7 @@ public final class ChainEdgesTest extends Rows {
         due.sentence("5 how many bytes THE TEXT is PACKED to by it");
         for (int n : of(0, 1, 2, 63, 128, 129, 300)) {
             for (int how = 0; how < 4; how++) {
-                ChainChoice x = whole();
+                Tested x = whole();
                 if (n > 0) {
                     x.fill(n, 77, how);
                 }
@@ -390,7 +390,7 @@ public final class ChainEdgesTest extends Rows {
 
     private static void chainWrong() {
         due.sentence("5 how many bytes THE TEXT is PACKED to by it. BAD.");
-        ChainChoice x = whole(1, 2);
+        Tested x = whole(1, 2);
         for (int k : of(-1, 85, 86, 256, Integer.MIN_VALUE, Integer.MAX_VALUE)) {
             for (int what = -1; what <= 6; what++) {
                 due.is("chain(" + k + ", " + what + ")", x.chain(k, what), BAD);

@@ -18,14 +18,14 @@ public final class ChainsTest {
         due.promise("7 filter");
         int[][] bad = {{0, 0}, {0, 1}, {5, 1}, {-1, 1}, {1, 0}, {1, 9}, {1, -1}, {2, 1}, {2, -1}, {3, 0}, {3, 1},
             {3, 9}, {4, 0}, {4, 256}, {4, -1}, {Integer.MAX_VALUE, 1}, {Integer.MIN_VALUE, 1}};
-        ChainChoice x = new ChainChoice();
+        Tested x = new Tested();
         for (int[] one : bad) {
             due.is("filter(" + one[0] + ", " + one[1] + ")", x.filter(one[0], one[1]), BAD);
         }
         due.is("chains()", x.chains(), 1);
         int[][] good = {{1, 1}, {1, 8}, {2, 0}, {3, 2}, {3, 8}, {4, 1}, {4, 255}};
         for (int[] one : good) {
-            due.is("filter(" + one[0] + ", " + one[1] + ")", new ChainChoice().filter(one[0], one[1]), 0);
+            due.is("filter(" + one[0] + ", " + one[1] + ")", new Tested().filter(one[0], one[1]), 0);
         }
         for (int i = 0; i < 4; i++) {
             due.is("filter(" + good[i][0] + ")", x.filter(good[i][0], good[i][1]), i);
@@ -37,7 +37,7 @@ public final class ChainsTest {
 
     private static void packer() {
         due.promise("8 packer");
-        ChainChoice x = new ChainChoice();
+        Tested x = new Tested();
         for (int kind : new int[] {0, 5, -1, Integer.MAX_VALUE, Integer.MIN_VALUE}) {
             due.is("packer(" + kind + ")", x.packer(kind), BAD);
         }
@@ -59,7 +59,7 @@ public final class ChainsTest {
 
     private static void forget() {
         due.promise("9 forget, 10 chains");
-        ChainChoice x = new ChainChoice();
+        Tested x = new Tested();
         due.is("forget()", x.forget(), 1);
         int[] filters = {1, 2, 5, 10, 17};
         for (int f = 0; f <= 4; f++) {
@@ -82,7 +82,7 @@ public final class ChainsTest {
 
     private static void goneChoices() {
         due.promise("what is chosen, learned is gone");
-        ChainChoice x = Due.of(1, 1);
+        Tested x = Due.of(1, 1);
         chosen(x);
         due.is("filter(0, 0)", x.filter(0, 0), BAD);
         due.is("packer(0)", x.packer(0), BAD);
@@ -110,13 +110,13 @@ public final class ChainsTest {
         gone(x);
     }
 
-    private static void chosen(ChainChoice x) {
+    private static void chosen(Tested x) {
         due.is("choose(9, 9)", x.choose(9, 9), 0);
         due.is("learn()", x.learn(), 8);
         due.is("learned(8)", x.learned(8), 0);
     }
 
-    private static void gone(ChainChoice x) {
+    private static void gone(Tested x) {
         due.is("told(2)", x.told(2), NO);
         due.is("learn()", x.learn(), NO);
         due.is("learned(8)", x.learned(8), NO);
@@ -124,7 +124,7 @@ public final class ChainsTest {
 
     private static void numbers() {
         due.promise("11 chain");
-        ChainChoice x = new ChainChoice();
+        Tested x = new Tested();
         x.filter(1, 1);
         x.filter(2, 0);
         x.filter(3, 2);
@@ -155,7 +155,7 @@ public final class ChainsTest {
     /** The same filter told twice has two numbers, and makes chains of both. */
     private static void likeFilters() {
         due.promise("11 chain, like filters");
-        ChainChoice x = Due.of(1, 2, 4, 8);
+        Tested x = Due.of(1, 2, 4, 8);
         due.is("filter(1, 1)", x.filter(1, 1), 0);
         due.is("filter(1, 1)", x.filter(1, 1), 1);
         due.is("chains()", x.chains(), 5);
@@ -171,7 +171,7 @@ public final class ChainsTest {
         int[] packerMemory = {0, 0, 256, 1024, 512};
         int[] filterSteps = {1, 16, 1, 1};
         int[] filterMemory = {0, 256, 0, 0};
-        ChainChoice x = Due.of(3, 3, 3, 3, 3, 3);
+        Tested x = Due.of(3, 3, 3, 3, 3, 3);
         int[] bodies = {6, 2, 2, 4, 4};
         for (int kind = 1; kind <= 4; kind++) {
             x.packer(kind);

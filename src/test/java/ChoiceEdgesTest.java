@@ -39,7 +39,7 @@ public final class ChoiceEdgesTest extends Rows {
         due.end();
     }
 
-    private static void tells(ChainChoice x, int... want) {
+    private static void tells(Tested x, int... want) {
         for (int what = 0; what < want.length; what++) {
             due.is("told(" + what + ")", x.told(what), want[what]);
         }
@@ -57,7 +57,7 @@ public final class ChoiceEdgesTest extends Rows {
     }
 
     private static void isFlat(int want, int... text) {
-        ChainChoice x = Due.of(text);
+        Tested x = Due.of(text);
         due.is("choose()", x.choose(0, 0), 0);
         due.is("told(5) of " + text.length, x.told(5), want);
     }
@@ -156,7 +156,7 @@ public final class ChoiceEdgesTest extends Rows {
 
     private static void featureOfNone() {
         due.sentence("each by n (cut; 3 at most; 0 for n = 0).");
-        ChainChoice x = new ChainChoice();
+        Tested x = new Tested();
         due.is("a new one's", x.feature(), 0);
         x.fill(300, 1, 3);
         x.clear();
@@ -165,8 +165,8 @@ public final class ChoiceEdgesTest extends Rows {
 
     // ---- choose
 
-    private static ChainChoice likeTen(int... packers) {
-        ChainChoice x = Due.of(many(7, 10));
+    private static Tested likeTen(int... packers) {
+        Tested x = Due.of(many(7, 10));
         for (int kind : packers) {
             x.packer(kind);
         }
@@ -175,7 +175,7 @@ public final class ChoiceEdgesTest extends Rows {
 
     private static void chooseFlat() {
         due.sentence("The CHAIN chosen: 0, if THE TEXT is FLAT");
-        ChainChoice x = Due.of(rising(64));
+        Tested x = Due.of(rising(64));
         x.filter(1, 1);
         x.packer(1);
         due.is("chain(3, 5) is less", x.chain(3, 5), 6 + 4);
@@ -187,12 +187,12 @@ public final class ChoiceEdgesTest extends Rows {
 
     private static void chooseInOrder() {
         due.sentence("else CHAINS are tried in order");
-        ChainChoice x = likeTen(3, 1);
+        Tested x = likeTen(3, 1);
         // STORED takes 10, PREFIX 40, RUNS 20.
         due.is("choose(49, most)", x.choose(49, MOST), 0);
         due.is("choose(50, most)", x.choose(50, MOST), 1);
         due.is("choose(70, most)", x.choose(70, MOST), 2);
-        ChainChoice y = likeTen(1, 3);
+        Tested y = likeTen(1, 3);
         due.is("choose(30, most)", y.choose(30, MOST), 1);
     }
 
@@ -200,7 +200,7 @@ public final class ChoiceEdgesTest extends Rows {
         due.sentence("one whose MEMORY is above what is told is not OFFERED");
         int[] memory = {0, 0, 256, 1024, 512};
         for (int kind = 2; kind <= 4; kind++) {
-            ChainChoice x = likeTen(kind);
+            Tested x = likeTen(kind);
             due.is("choose(most, 0)", x.choose(MOST, 0), 0);
             tells(x, 1, 10, 0, 14, 1, 0);
             x.choose(MOST, memory[kind] - 1);
@@ -209,7 +209,7 @@ public final class ChoiceEdgesTest extends Rows {
             due.is("told(4)", x.told(4), 0);
             due.is("told(0)", x.told(0), 2);
         }
-        ChainChoice y = likeTen(1);
+        Tested y = likeTen(1);
         due.is("RUNS needs none", y.choose(MOST, 0), 1);
         y.filter(2, 0);
         y.choose(MOST, 255);
@@ -222,7 +222,7 @@ public final class ChoiceEdgesTest extends Rows {
         due.sentence("each takes its STEPS a byte, for each byte");
         int[] steps = {1, 2, 2, 4, 64};
         for (int kind = 1; kind <= 4; kind++) {
-            ChainChoice x = likeTen(kind);
+            Tested x = likeTen(kind);
             int both = 10 + 10 * steps[kind];
             x.choose(both - 1, MOST);
             due.is("told(0), one step too few", x.told(0), 1);
@@ -234,7 +234,7 @@ public final class ChoiceEdgesTest extends Rows {
             due.is("told(1), more than enough", x.told(1), both);
         }
         // All 85 CHAINS over 300 bytes: 17 times 73 for the PACKERS, and for each FILTER's 7 times 5 its own.
-        ChainChoice y = likeTen(1, 2, 3, 4);
+        Tested y = likeTen(1, 2, 3, 4);
         y.filter(1, 1);
         y.filter(2, 0);
         y.filter(3, 2);
@@ -250,7 +250,7 @@ public final class ChoiceEdgesTest extends Rows {
 
     private static void chooseEnds() {
         due.sentence("the first one for which fewer are left of those told ends it.");
-        ChainChoice x = likeTen(4, 1);
+        Tested x = likeTen(4, 1);
         // RUNS would go, but MATCHES before it has ended it.
         due.is("choose(649, most)", x.choose(649, MOST), 0);
         tells(x, 1, 10, 0, 14, 0, 0);
@@ -258,7 +258,7 @@ public final class ChoiceEdgesTest extends Rows {
         due.is("choose(30, 511)", x.choose(30, 511), 2);
         tells(x, 2, 30, 2, 6, 1, 0);
         // Those behind the end are not looked at, so not counted either.
-        ChainChoice y = likeTen(1, 4, 3);
+        Tested y = likeTen(1, 4, 3);
         due.is("choose(29, 0)", y.choose(29, 0), 0);
         tells(y, 1, 10, 0, 14, 0, 0);
         due.is("choose(30, 0)", y.choose(30, 0), 1);
@@ -268,17 +268,17 @@ public final class ChoiceEdgesTest extends Rows {
     private static void chooseFewestBytes() {
         due.sentence("Of those tried that of fewest bytes");
         // MATCHES 4 + 4, PREFIX 4 + 5, RUNS 4 + 2.
-        ChainChoice x = likeTen(4, 3, 1);
+        Tested x = likeTen(4, 3, 1);
         due.is("choose()", x.choose(MOST, MOST), 3);
         due.is("told(3)", x.told(3), 6);
         due.is("choose(690, most)", x.choose(690, MOST), 1);
         due.is("told(3)", x.told(3), 8);
         // A head of a FILTER counts: 5 6 by XOR is no less.
-        ChainChoice y = Due.of(5, 6);
+        Tested y = Due.of(5, 6);
         y.filter(4, 5);
         due.is("choose()", y.choose(MOST, MOST), 0);
         // One byte less is enough, whatever it takes.
-        ChainChoice z = Due.of(many(7, 5));
+        Tested z = Due.of(many(7, 5));
         z.packer(4);
         due.is("choose() of 5", z.choose(MOST, MOST), 1);
         due.is("told(3)", z.told(3), 8);
@@ -287,12 +287,12 @@ public final class ChoiceEdgesTest extends Rows {
     private static void chooseFewestSteps() {
         due.sentence("of like ones of fewest STEPS a byte");
         // 8 bytes: MATCHES 4 + 4 (64 STEPS), PREFIX 4 + 4 (4 STEPS).
-        ChainChoice x = Due.of(many(7, 8));
+        Tested x = Due.of(many(7, 8));
         x.packer(4);
         x.packer(3);
         due.is("choose()", x.choose(MOST, MOST), 2);
         // PREFIX first: MATCHES behind it takes more.
-        ChainChoice y = Due.of(many(7, 8));
+        Tested y = Due.of(many(7, 8));
         y.packer(3);
         y.packer(4);
         due.is("choose()", y.choose(MOST, MOST), 1);
@@ -301,7 +301,7 @@ public final class ChoiceEdgesTest extends Rows {
 
     private static void chooseLeastNumber() {
         due.sentence("of like ones of fewest STEPS a byte, then the least");
-        ChainChoice x = Due.of(7, 7, 7);
+        Tested x = Due.of(7, 7, 7);
         x.packer(2);
         x.packer(1);
         due.is("BITS before RUNS", x.choose(MOST, MOST), 1);
@@ -310,11 +310,11 @@ public final class ChoiceEdgesTest extends Rows {
         x.packer(2);
         due.is("RUNS before BITS", x.choose(MOST, MOST), 1);
         // 2 bytes: STORED 6, RUNS 6: STORED takes fewer.
-        ChainChoice y = Due.of(7, 7);
+        Tested y = Due.of(7, 7);
         y.packer(1);
         due.is("STORED", y.choose(MOST, MOST), 0);
         // DELTA 1 and DELTA 1 are alike in all but their number.
-        ChainChoice z = Due.of(1, 2, 3, 4, 5, 6, 7, 8, 9);
+        Tested z = Due.of(1, 2, 3, 4, 5, 6, 7, 8, 9);
         z.filter(1, 1);
         z.filter(1, 1);
         z.packer(1);
@@ -323,7 +323,7 @@ public final class ChoiceEdgesTest extends Rows {
 
     private static void chooseNoneTried() {
         due.sentence("0 if none was tried.");
-        ChainChoice x = likeTen(1);
+        Tested x = likeTen(1);
         due.is("choose(9, most)", x.choose(9, MOST), 0);
         tells(x, 0, 0, 0, 14, 0, 0);
         due.is("choose(0, 0)", x.choose(0, 0), 0);
@@ -334,7 +334,7 @@ public final class ChoiceEdgesTest extends Rows {
 
     private static void chooseEmpty() {
         due.sentence("each takes its STEPS a byte, for each byte");
-        ChainChoice x = new ChainChoice();
+        Tested x = new Tested();
         x.filter(2, 0);
         x.packer(4);
         x.packer(1);
@@ -347,7 +347,7 @@ public final class ChoiceEdgesTest extends Rows {
 
     private static void chooseWrong() {
         due.sentence("BAD: a number is below 0.");
-        ChainChoice x = likeTen(1);
+        Tested x = likeTen(1);
         x.choose(MOST, MOST);
         for (int number : of(-1, -2, LEAST)) {
             due.is("choose(" + number + ", 0)", x.choose(number, 0), BAD);
@@ -355,7 +355,7 @@ public final class ChoiceEdgesTest extends Rows {
             due.is("choose(" + number + ", " + number + ")", x.choose(number, number), BAD);
         }
         tells(x, 2, 30, 1, 6, 0, 0);
-        ChainChoice y = Due.of(rising(64));
+        Tested y = Due.of(rising(64));
         due.is("choose(-1, 0) of a FLAT one", y.choose(-1, 0), BAD);
         due.is("choose(0, -1) of a FLAT one", y.choose(0, -1), BAD);
         due.is("told(5)", y.told(5), NO);
@@ -365,7 +365,7 @@ public final class ChoiceEdgesTest extends Rows {
 
     private static void toldNumbers() {
         due.sentence("3 the least number of bytes (of the CHAIN; of 0, if none was tried)");
-        ChainChoice x = likeTen(4, 1);
+        Tested x = likeTen(4, 1);
         x.choose(30, 511);
         tells(x, 2, 30, 2, 6, 1, 0);
         x.choose(9, 511);
@@ -378,7 +378,7 @@ public final class ChoiceEdgesTest extends Rows {
     private static void toldNotOffered() {
         due.sentence("4 how many were not OFFERED (of those looked at)");
         // In order STORED (10 STEPS), PREFIX, RUNS (20), MATCHES; then all of them behind FRONT.
-        ChainChoice x = likeTen(3, 1, 4);
+        Tested x = likeTen(3, 1, 4);
         x.filter(2, 0);
         x.choose(9, 0);
         due.is("the first one ends it", x.told(4), 0);
@@ -398,7 +398,7 @@ public final class ChoiceEdgesTest extends Rows {
 
     private static void toldOfFlat() {
         due.sentence("5 1 if it was FLAT, else 0.");
-        ChainChoice x = likeTen(1);
+        Tested x = likeTen(1);
         x.choose(30, 0);
         tells(x, 2, 30, 1, 6, 0, 0);
         x.clear();
@@ -413,7 +413,7 @@ public final class ChoiceEdgesTest extends Rows {
 
     private static void toldLatest() {
         due.sentence("Of the latest choose()");
-        ChainChoice x = likeTen(1);
+        Tested x = likeTen(1);
         x.choose(MOST, MOST);
         x.choose(10, 0);
         tells(x, 1, 10, 0, 14, 0, 0);
@@ -424,7 +424,7 @@ public final class ChoiceEdgesTest extends Rows {
 
     private static void toldWrong() {
         due.sentence("BAD; NO: there was none, or it is gone.");
-        ChainChoice x = likeTen(1);
+        Tested x = likeTen(1);
         for (int what : of(-1, 6, 7, LEAST, MOST)) {
             due.is("told(" + what + ") of none", x.told(what), BAD);
         }
@@ -436,7 +436,7 @@ public final class ChoiceEdgesTest extends Rows {
 
     private static void toldNone() {
         due.sentence("BAD; NO: there was none, or it is gone.");
-        ChainChoice x = new ChainChoice();
+        Tested x = new Tested();
         x.choose(-1, 0);
         for (int what = 0; what < 6; what++) {
             due.is("told(" + what + ")", x.told(what), NO);
@@ -452,7 +452,7 @@ public final class ChoiceEdgesTest extends Rows {
 
     private static void learn() {
         due.sentence("The CHAIN of the latest choose() is learned for THE FEATURE of THE TEXT: that FEATURE.");
-        ChainChoice x = likeTen(1);
+        Tested x = likeTen(1);
         x.choose(MOST, MOST);
         due.is("not by choose() alone", x.learned(12), NO);
         due.is("learn()", x.learn(), 12);
@@ -471,7 +471,7 @@ public final class ChoiceEdgesTest extends Rows {
 
     private static void learnNone() {
         due.sentence("that FEATURE. NO: there was none, or it is gone.");
-        ChainChoice x = likeTen();
+        Tested x = likeTen();
         due.is("there was none", x.learn(), NO);
         x.choose(-1, -1);
         due.is("a refused one is none", x.learn(), NO);
@@ -485,7 +485,7 @@ public final class ChoiceEdgesTest extends Rows {
     private static void learnOfEdges() {
         due.sentence("The CHAIN that is learned for a FEATURE.");
         // The least and the greatest FEATURE that a text can have: b and c are never both 3.
-        ChainChoice x = new ChainChoice();
+        Tested x = new Tested();
         x.choose(0, 0);
         due.is("learn() of none", x.learn(), 0);
         due.is("learned(0)", x.learned(0), 0);
@@ -502,7 +502,7 @@ public final class ChoiceEdgesTest extends Rows {
 
     private static void learned() {
         due.sentence("BAD (0 to 63); NO: none is.");
-        ChainChoice x = likeTen(1);
+        Tested x = likeTen(1);
         for (int feature = 0; feature < 64; feature++) {
             due.is("learned(" + feature + ")", x.learned(feature), NO);
         }
@@ -522,7 +522,7 @@ public final class ChoiceEdgesTest extends Rows {
 
     private static void shareCut() {
         due.sentence("1000 times this by that, cut.");
-        ChainChoice x = new ChainChoice();
+        Tested x = new Tested();
         due.is("share(0, 1)", x.share(0, 1), 0);
         due.is("share(1, 1000)", x.share(1, 1000), 1);
         due.is("share(1, 1001)", x.share(1, 1001), 0);
@@ -537,7 +537,7 @@ public final class ChoiceEdgesTest extends Rows {
 
     private static void shareFarthest() {
         due.sentence("1000 times this by that, cut.");
-        ChainChoice x = new ChainChoice();
+        Tested x = new Tested();
         due.is("share(most, 1)", x.share(MOST, 1), 2147483647000L);
         due.is("share(least, 1)", x.share(LEAST, 1), -2147483648000L);
         due.is("share(least, -1)", x.share(LEAST, -1), 2147483648000L);
@@ -550,7 +550,7 @@ public final class ChoiceEdgesTest extends Rows {
 
     private static void shareOfNothing() {
         due.sentence("ArithmeticException: that is 0.");
-        ChainChoice x = likeTen(1);
+        Tested x = likeTen(1);
         for (int part : of(0, 1, -1, LEAST, MOST)) {
             int thrown = 0;
             try {

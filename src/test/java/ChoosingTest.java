@@ -18,7 +18,7 @@ public final class ChoosingTest {
         due.end();
     }
 
-    private static void tells(ChainChoice x, int... want) {
+    private static void tells(Tested x, int... want) {
         for (int what = 0; what < want.length; what++) {
             due.is("told(" + what + ")", x.told(what), want[what]);
         }
@@ -26,7 +26,7 @@ public final class ChoosingTest {
 
     private static void wrong() {
         due.promise("12 choose, 13 told: wrong");
-        ChainChoice x = Due.of(5, 5, 5, 5);
+        Tested x = Due.of(5, 5, 5, 5);
         due.is("told(0)", x.told(0), NO);
         due.is("told(-1)", x.told(-1), BAD);
         due.is("told(6)", x.told(6), BAD);
@@ -45,7 +45,7 @@ public final class ChoosingTest {
 
     private static void least() {
         due.promise("12 choose: the least");
-        ChainChoice x = Due.of(5, 5, 5, 5, 5, 5, 5, 5, 5, 5);
+        Tested x = Due.of(5, 5, 5, 5, 5, 5, 5, 5, 5, 5);
         x.packer(4);
         x.packer(3);
         x.packer(1);
@@ -64,7 +64,7 @@ public final class ChoosingTest {
 
     private static void ties() {
         due.promise("12 choose: like ones");
-        ChainChoice x = Due.of(7, 7, 7);
+        Tested x = Due.of(7, 7, 7);
         x.packer(3);
         x.packer(2);
         x.packer(1);
@@ -93,7 +93,7 @@ public final class ChoosingTest {
 
     private static void withinSteps() {
         due.promise("12 choose: steps");
-        ChainChoice x = Due.of(7, 7, 7, 7, 7, 7, 7, 7, 7, 7);
+        Tested x = Due.of(7, 7, 7, 7, 7, 7, 7, 7, 7, 7);
         x.packer(4);
         x.packer(1);
         due.is("choose(9, most)", x.choose(9, MOST), 0);
@@ -115,7 +115,7 @@ public final class ChoosingTest {
 
     private static void withinMemory() {
         due.promise("12 choose: memory");
-        ChainChoice x = Due.of(7, 7, 7, 7, 7, 7, 7, 7, 7, 7);
+        Tested x = Due.of(7, 7, 7, 7, 7, 7, 7, 7, 7, 7);
         x.packer(4);
         x.packer(1);
         // MATCHES is not offered, so it does not end it either.
@@ -137,7 +137,7 @@ public final class ChoosingTest {
 
     private static void flat() {
         due.promise("12 choose: FLAT");
-        ChainChoice x = new ChainChoice();
+        Tested x = new Tested();
         for (int i = 0; i < 64; i++) {
             x.add(i);
         }
@@ -171,7 +171,7 @@ public final class ChoosingTest {
 
     /** One byte stands there as often as it may, or once more. */
     private static void flatBy(int n, int more, int b) {
-        ChainChoice x = new ChainChoice();
+        Tested x = new Tested();
         int most = 2 + n / 32 + more;
         for (int i = 0; i < n; i++) {
             x.add(i < most ? b : (b + 1 + (i - most) % 200) % 256);
@@ -182,7 +182,7 @@ public final class ChoosingTest {
 
     private static void learn() {
         due.promise("14 learn, 16 learned");
-        ChainChoice x = Due.of(7, 7, 7, 7, 7, 7, 7, 7, 7, 7);
+        Tested x = Due.of(7, 7, 7, 7, 7, 7, 7, 7, 7, 7);
         due.is("learn()", x.learn(), NO);
         x.packer(1);
         x.choose(MOST, MOST);
@@ -207,7 +207,7 @@ public final class ChoosingTest {
 
     private static void features() {
         due.promise("15 feature");
-        due.is("none", new ChainChoice().feature(), 0);
+        due.is("none", new Tested().feature(), 0);
         due.is("one", Due.of(5).feature(), 0);
         due.is("two like", Due.of(5, 5).feature(), 8);
         due.is("four like", Due.of(5, 5, 5, 5).feature(), 12);
@@ -220,13 +220,13 @@ public final class ChoosingTest {
         int[] unlike = {1, 2, 3, 16, 17, 64, 65, 256};
         int[] of = {0, 0, 1, 1, 2, 2, 3, 3};
         for (int i = 0; i < unlike.length; i++) {
-            ChainChoice x = new ChainChoice();
+            Tested x = new Tested();
             for (int j = 0; j < unlike[i]; j++) {
                 x.add(j * 7 % 256);
             }
             due.is("of " + unlike[i], x.feature(), 16 * of[i]);
         }
-        ChainChoice y = new ChainChoice();
+        Tested y = new Tested();
         for (int i = 0; i < 256; i++) {
             y.add(i);
         }
@@ -235,7 +235,7 @@ public final class ChoosingTest {
 
     private static void share() {
         due.promise("17 share");
-        ChainChoice x = new ChainChoice();
+        Tested x = new Tested();
         due.is("share(1, 3)", x.share(1, 3), 333);
         due.is("share(2, 3)", x.share(2, 3), 666);
         due.is("share(0, 3)", x.share(0, 3), 0);

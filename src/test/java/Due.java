@@ -39,7 +39,7 @@ final class Due {
         }
     }
 
-    void row(String what, ChainChoice x, int which, int... want) {
+    void row(String what, Tested x, int which, int... want) {
         same(what, row(x, which), want);
     }
 
@@ -64,7 +64,7 @@ final class Due {
         }
     }
 
-    static int[] row(ChainChoice x, int which) {
+    static int[] row(Tested x, int which) {
         int[] bytes = new int[x.size(which)];
         for (int i = 0; i < bytes.length; i++) {
             bytes[i] = x.octet(which, i);
@@ -73,21 +73,21 @@ final class Due {
     }
 
     /** A new object whose text is these bytes. */
-    static ChainChoice of(int... bytes) {
-        ChainChoice x = new ChainChoice();
+    static Tested of(int... bytes) {
+        Tested x = new Tested();
         put(x, bytes);
         return x;
     }
 
-    static void put(ChainChoice x, int... bytes) {
+    static void put(Tested x, int... bytes) {
         for (int b : bytes) {
             x.add(b);
         }
     }
 
     /** A new object whose text is 9 9 9 and whose OUT is these bytes (304 at most). */
-    static ChainChoice withOut(int... bytes) {
-        ChainChoice x = new ChainChoice();
+    static Tested withOut(int... bytes) {
+        Tested x = new Tested();
         for (int i = 4; i < bytes.length; i++) {
             x.add(bytes[i]);
         }
@@ -103,7 +103,7 @@ final class Due {
 
     /** OUT of these bytes is read to this text. */
     void reads(int[] out, int... text) {
-        ChainChoice x = withOut(out);
+        Tested x = withOut(out);
         is("unpack() of " + Arrays.toString(out), x.unpack(), text.length);
         row("the text of " + Arrays.toString(out), x, 0, text);
         is("place()", x.place(), ChainChoice.NO);
@@ -112,7 +112,7 @@ final class Due {
 
     /** OUT of these bytes has this FAULT there, and the text stays. */
     void faulty(int fault, int place, int... out) {
-        ChainChoice x = withOut(out);
+        Tested x = withOut(out);
         is("unpack() of " + Arrays.toString(out), x.unpack(), -10 - fault);
         is("place() of " + Arrays.toString(out), x.place(), place);
         row("the text", x, 0, 9, 9, 9);

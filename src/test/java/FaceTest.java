@@ -17,11 +17,19 @@ public final class FaceTest {
         "int chain(int,int)", "int choose(int,int)", "int told(int)", "int learn()", "int feature()",
         "int learned(int)", "long share(int,int)", "int pack(int)", "int alter(int,int)", "int cut(int)",
         "int unpack()", "int place()"};
+    /** What the interface says ahead of calls, and those calls. */
+    private static final String[][] SECTIONS = {
+        {"the text", "clear", "add", "fill", "size", "octet"},
+        {"chains", "filter", "packer", "forget", "chains", "chain"},
+        {"choosing", "choose", "told", "learn", "feature", "learned", "share"},
+        {"packed", "pack", "alter", "cut", "unpack", "place"}};
 
     public static void main(String[] args) throws IOException {
         members();
+        exceptions();
         nested();
         words();
+        sections();
         due.end();
     }
 
@@ -45,14 +53,24 @@ public final class FaceTest {
             due.yes(m.getName() + " is public or private", open || Modifier.isPrivate(m.getModifiers()));
             due.yes(m.getName() + " has a name of its own", open || !names.contains(m.getName()));
         }
-        for (Constructor<?> one : c.getDeclaredConstructors()) {
-            due.yes("one constructor", one.getParameterCount() == 0 && Modifier.isPublic(one.getModifiers()));
+        Constructor<?>[] constructors = c.getDeclaredConstructors();
+        due.is("how many constructors", constructors.length, 1);
+        for (Constructor<?> one : constructors) {
+            due.yes("a public one of nothing", one.getParameterCount() == 0 && Modifier.isPublic(one.getModifiers()));
         }
         for (Field f : c.getDeclaredFields()) {
             boolean told = Arrays.asList("BAD", "FULL", "NO").contains(f.getName());
             due.yes(f.getName(), told ? Modifier.isPublic(f.getModifiers()) : Modifier.isPrivate(f.getModifiers()));
             due.yes(f.getName() + ", static only if final",
                 !Modifier.isStatic(f.getModifiers()) || Modifier.isFinal(f.getModifiers()));
+        }
+    }
+
+    private static void exceptions() {
+        due.promise("the face, what it throws");
+        for (Method m : ChainChoice.class.getDeclaredMethods()) {
+            String told = m.getName().equals("share") ? "[class java.lang.ArithmeticException]" : "[]";
+            due.yes(m.getName() + " throws " + told, Arrays.toString(m.getExceptionTypes()).equals(told));
         }
     }
 
@@ -80,6 +98,20 @@ public final class FaceTest {
         for (String line : source.split("\n")) {
             if (line.startsWith("import ")) {
                 due.yes(line, line.equals("import java.util.Arrays;"));
+            }
+        }
+    }
+
+    private static void sections() throws IOException {
+        due.promise("ahead of the calls");
+        String source = Files.readString(Path.of("src/main/java/ChainChoice.java"));
+        for (String[] section : SECTIONS) {
+            int head = source.indexOf("// ---- " + section[0] + "\n");
+            int end = source.indexOf("// ---- ", head + 1);
+            due.yes(section[0], head >= 0 && end > head);
+            for (int i = 1; i < section.length; i++) {
+                int call = source.indexOf(" " + section[i] + "(", source.indexOf("public ", head));
+                due.yes(section[i] + " under " + section[0], call > head && call < end);
             }
         }
     }

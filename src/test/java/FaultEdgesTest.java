@@ -56,7 +56,7 @@ public final class FaultEdgesTest extends Rows {
         due.reads(of(1, 4, 255, 0, 0, 2, 0, 255), 255, 0);
         due.reads(of(2, 3, 2, 1, 1, 0, 0, 4, 1, 3, 254, 5), 1, 2, 4, 7);
         // TOLD ones do not matter.
-        ChainChoice x = Due.withOut(1, 4, 255, 0, 0, 2, 0, 255);
+        Tested x = Due.withOut(1, 4, 255, 0, 0, 2, 0, 255);
         x.filter(1, 1);
         x.packer(2);
         due.is("unpack()", x.unpack(), 2);
@@ -92,7 +92,7 @@ public final class FaultEdgesTest extends Rows {
         int[][] outs = {of(0, 5, 0, 2, 7, 8), out(STORED, 3, 7, 8), out(STORED, 2, 7, 8, 9),
             out(RUNS, 3, 128, 7, 1, 8, 9)};
         for (int fault = 1; fault <= 4; fault++) {
-            ChainChoice x = Due.withOut(outs[fault - 1]);
+            Tested x = Due.withOut(outs[fault - 1]);
             due.is("unpack()", x.unpack(), -10 - fault);
             due.row("the text stays", x, 0, 9, 9, 9);
             due.is("add(1)", x.add(1), 4);
@@ -188,7 +188,7 @@ public final class FaultEdgesTest extends Rows {
         due.sentence("2 OUT ends");
         for (int[] whole : wholes()) {
             for (int n = 0; n < whole.length; n++) {
-                ChainChoice x = Due.withOut(whole);
+                Tested x = Due.withOut(whole);
                 x.cut(n);
                 due.is("unpack() of " + n + " of " + Arrays.toString(whole), x.unpack(), -12);
                 due.is("place()", x.place(), n);
@@ -433,7 +433,7 @@ public final class FaultEdgesTest extends Rows {
         much[4] = 16;
         due.faulty(4, 4 + 34, join(much, 151, 15, 0));
         // 256 LENGTHS of 8 are just 1; one of 7 among them is too much, one of 9 too little.
-        ChainChoice x = Due.of(rising(256));
+        Tested x = Due.of(rising(256));
         x.packer(PREFIX);
         x.pack(1);
         for (int length : of(8, 7, 9)) {
@@ -506,7 +506,7 @@ public final class FaultEdgesTest extends Rows {
 
     private static void placeOfNone() {
         due.sentence("NO: it had none.");
-        ChainChoice x = new ChainChoice();
+        Tested x = new Tested();
         due.is("no unpack() yet", x.place(), NO);
         x.pack(0);
         due.is("unpack()", x.unpack(), 0);
@@ -515,7 +515,7 @@ public final class FaultEdgesTest extends Rows {
 
     private static void placeOfLatest() {
         due.sentence("The place of the FAULT of the latest unpack()");
-        ChainChoice x = Due.of(1, 2);
+        Tested x = Due.of(1, 2);
         x.pack(0);
         x.alter(1, 9);
         due.is("unpack()", x.unpack(), -11);
@@ -539,7 +539,7 @@ public final class FaultEdgesTest extends Rows {
 
     private static void placeOfTheEnd() {
         due.sentence("(of 2 the number of bytes of OUT)");
-        ChainChoice x = Due.of(mixed(300));
+        Tested x = Due.of(mixed(300));
         x.pack(0);
         for (int n : of(303, 100, 5, 4, 3, 1, 0)) {
             x.cut(n);

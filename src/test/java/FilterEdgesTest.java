@@ -26,16 +26,16 @@ public final class FilterEdgesTest extends Rows {
     private static void takes(int kind, int least, int most) {
         for (int v = -3; v < 520; v++) {
             int want = v >= least && v <= most ? 0 : BAD;
-            due.is("filter(" + kind + ", " + v + ")", new ChainChoice().filter(kind, v), want);
+            due.is("filter(" + kind + ", " + v + ")", new Tested().filter(kind, v), want);
         }
         for (int v : of(Integer.MIN_VALUE, Integer.MAX_VALUE, -256, 65536 + least, least - 65536)) {
-            due.is("filter(" + kind + ", " + v + ")", new ChainChoice().filter(kind, v), BAD);
+            due.is("filter(" + kind + ", " + v + ")", new Tested().filter(kind, v), BAD);
         }
     }
 
     /** What one FILTER makes of a text, which is read again to the same. */
     private static int[] made(int kind, int v, int... text) {
-        ChainChoice x = Due.of(text);
+        Tested x = Due.of(text);
         x.filter(kind, v);
         due.is("pack(1)", x.pack(1), 6 + text.length);
         int[] out = Due.row(x, 1);
@@ -49,7 +49,7 @@ public final class FilterEdgesTest extends Rows {
         due.sentence("kind 1, DELTA by v");
         for (int kind : of(0, 5, 6, -1, 255, 256, 257, Integer.MIN_VALUE, Integer.MAX_VALUE)) {
             for (int v = -1; v < 10; v++) {
-                due.is("filter(" + kind + ", " + v + ")", new ChainChoice().filter(kind, v), BAD);
+                due.is("filter(" + kind + ", " + v + ")", new Tested().filter(kind, v), BAD);
             }
         }
     }
@@ -90,7 +90,7 @@ public final class FilterEdgesTest extends Rows {
         for (int b = 0; b < 256; b++) {
             due.same("the first byte", made(FRONT, 0, b), b);
         }
-        ChainChoice x = Due.of(255);
+        Tested x = Due.of(255);
         x.filter(FRONT, 0);
         x.pack(1);
         x.pack(1);
@@ -160,7 +160,7 @@ public final class FilterEdgesTest extends Rows {
 
     private static void upToFour() {
         due.sentence("Up to four are TOLD, any.");
-        ChainChoice x = new ChainChoice();
+        Tested x = new Tested();
         due.is("first", x.filter(DELTA, 1), 0);
         due.is("second", x.filter(FRONT, 0), 1);
         due.is("third", x.filter(PLANES, 2), 2);
@@ -174,7 +174,7 @@ public final class FilterEdgesTest extends Rows {
 
     private static void any() {
         due.sentence("Up to four are TOLD, any.");
-        ChainChoice x = new ChainChoice();
+        Tested x = new Tested();
         for (int i = 0; i < 4; i++) {
             due.is("FRONT once more", x.filter(FRONT, 0), i);
         }
@@ -183,7 +183,7 @@ public final class FilterEdgesTest extends Rows {
 
     private static void firstThenSecond() {
         due.sentence("what the PACKER makes of what the FILTERS make of THE TEXT");
-        ChainChoice x = Due.of(1, 2, 4, 7);
+        Tested x = Due.of(1, 2, 4, 7);
         x.filter(PLANES, 2);
         x.filter(DELTA, 1);
         // PLANES: 1 4 2 7, then DELTA; DELTA: 1 1 2 3, then PLANES.

@@ -8,7 +8,7 @@ public final class ModelTest {
 
     private final Due due;
     private final Random random;
-    private final ChainChoice x = new ChainChoice();
+    private final Tested x = new Tested();
     private final Model m = new Model();
 
     private ModelTest(Due due, int seed) {

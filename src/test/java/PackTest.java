@@ -22,7 +22,7 @@ public final class PackTest extends Rows {
 
     private static void wrong() {
         due.promise("18 pack");
-        ChainChoice x = Due.of(1, 2);
+        Tested x = Due.of(1, 2);
         due.is("pack(0)", x.pack(0), 6);
         due.row("OUT", x, 1, 0, 0, 0, 2, 1, 2);
         for (int k : new int[] {-1, 1, Integer.MAX_VALUE, Integer.MIN_VALUE}) {
@@ -43,7 +43,7 @@ public final class PackTest extends Rows {
 
     /** The text by one filter and STORED. */
     private static void by(int kind, int v, int[] text, int... want) {
-        ChainChoice x = Due.of(text);
+        Tested x = Due.of(text);
         x.filter(kind, v);
         due.is("pack(1)", x.pack(1), 6 + want.length);
         due.row("kind " + kind + " by " + v + " of " + Arrays.toString(text), x, 1,
@@ -71,7 +71,7 @@ public final class PackTest extends Rows {
 
     private static void filterPairs() {
         due.promise("18 pack, two FILTERS");
-        ChainChoice x = Due.of(1, 2);
+        Tested x = Due.of(1, 2);
         x.filter(1, 1);
         x.filter(4, 1);
         due.is("pack(3)", x.pack(3), 10);
@@ -89,7 +89,7 @@ public final class PackTest extends Rows {
 
     /** The text by one packer without filters; read again it is the same. */
     private static void to(int kind, int[] text, int... want) {
-        ChainChoice x = Due.of(text);
+        Tested x = Due.of(text);
         x.packer(kind);
         String name = "packer " + kind + " of " + Arrays.toString(text);
         due.is(name, x.pack(1), 4 + want.length);
@@ -132,7 +132,7 @@ public final class PackTest extends Rows {
         to(BITS, new int[] {0, 1, 2, 255}, 3, 0, 1, 2, 255, 27);
         to(BITS, new int[] {4, 3, 2, 1, 0}, 4, 0, 1, 2, 3, 4, 0b10001101, 0b00010000);
         to(BITS, rising(256), join(join(new int[] {255}, rising(256)), rising(256)));
-        ChainChoice x = Due.of(rising(129));
+        Tested x = Due.of(rising(129));
         x.packer(BITS);
         due.is("129 unlike ones", x.pack(1), 4 + 1 + 129 + 129);
         x = Due.of(rising(128));
@@ -167,7 +167,7 @@ public final class PackTest extends Rows {
             one = two;
             two = sum;
         }
-        ChainChoice x = Due.of(deep);
+        Tested x = Due.of(deep);
         x.packer(PREFIX);
         x.pack(1);
         for (int b = 0; b < 11; b++) {
@@ -212,28 +212,40 @@ public final class PackTest extends Rows {
     private static void again() {
         due.promise("18 pack, one after another");
         int[][] texts = {rising(256), {0, 5, 5, 5, 1}, {9}, many(7, 20), {1, 1, 2, 2, 3, 4}, {3, 3, 0, 0, 255, 254}};
-        ChainChoice x = new ChainChoice();
+        for (int[] before : texts) {
+            for (int[] text : texts) {
+                Tested x = withFront(before);
+                for (int k = 0; k < 10; k++) {
+                    x.pack(k);
+                    due.is("unpack()", x.unpack(), before.length);
+                }
+                if (before != text) {
+                    x.clear();
+                    Due.put(x, text);
+                }
+                asFresh(x, text);
+            }
+        }
+    }
+
+    /** A new object with FRONT and all PACKERS: 10 CHAINS. */
+    private static Tested withFront(int... text) {
+        Tested x = Due.of(text);
         x.filter(2, 0);
         for (int kind = 1; kind <= 4; kind++) {
             x.packer(kind);
         }
-        for (int turn = 0; turn < 2; turn++) {
-            for (int[] text : texts) {
-                for (int k = 0; k < x.chains(); k++) {
-                    ChainChoice fresh = Due.of(text);
-                    fresh.filter(2, 0);
-                    for (int kind = 1; kind <= 4; kind++) {
-                        fresh.packer(kind);
-                    }
-                    x.clear();
-                    Due.put(x, text);
-                    due.is("pack(" + k + ")", x.pack(k), fresh.pack(k));
-                    due.row("OUT", x, 1, Due.row(fresh, 1));
-                    x.clear();
-                    due.is("unpack()", x.unpack(), text.length);
-                    due.row("back again", x, 0, text);
-                }
-            }
+        return x;
+    }
+
+    private static void asFresh(Tested x, int... text) {
+        for (int k = 0; k < 10; k++) {
+            Tested fresh = withFront(text);
+            due.is("pack(" + k + ")", x.pack(k), fresh.pack(k));
+            due.row("OUT", x, 1, Due.row(fresh, 1));
+            x.clear();
+            due.is("unpack()", x.unpack(), text.length);
+            due.row("back again", x, 0, text);
         }
     }
 
@@ -249,7 +261,7 @@ public final class PackTest extends Rows {
 
     private static void alter() {
         due.promise("19 alter");
-        ChainChoice x = new ChainChoice();
+        Tested x = new Tested();
         due.is("alter(0, 0)", x.alter(0, 0), BAD);
         Due.put(x, 8, 9);
         x.pack(0);
@@ -267,7 +279,7 @@ public final class PackTest extends Rows {
 
     private static void cut() {
         due.promise("20 cut");
-        ChainChoice x = new ChainChoice();
+        Tested x = new Tested();
         due.is("cut(0)", x.cut(0), 0);
         due.is("cut(1)", x.cut(1), BAD);
         Due.put(x, 8, 9);

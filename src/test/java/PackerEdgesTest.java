@@ -38,7 +38,7 @@ public final class PackerEdgesTest extends Rows {
 
     /** The text by this PACKER alone; it is read again to the same. */
     private static void packs(int kind, int[] text, int... want) {
-        ChainChoice x = Due.of(text);
+        Tested x = Due.of(text);
         int k = kind == STORED ? 0 : x.packer(kind);
         String name = text.length > 20 ? text.length + " bytes" : Arrays.toString(text);
         due.is("pack() of " + name, x.pack(k), 4 + want.length);
@@ -208,7 +208,7 @@ public final class PackerEdgesTest extends Rows {
         for (int b = 0; b < weights.length; b++) {
             text = join(text, many(b, weights[b]));
         }
-        ChainChoice x = Due.of(text);
+        Tested x = Due.of(text);
         x.packer(PREFIX);
         x.pack(1);
         int[] got = new int[weights.length];

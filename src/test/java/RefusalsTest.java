@@ -9,12 +9,12 @@ public final class RefusalsTest extends Rows {
 
     /** One call that is refused. */
     private interface Call {
-        int on(ChainChoice x);
+        int on(Tested x);
     }
 
     /** An object in some state. */
     private interface State {
-        ChainChoice make();
+        Tested make();
     }
 
     public static void main(String[] args) {
@@ -23,7 +23,7 @@ public final class RefusalsTest extends Rows {
         due.is("BAD", BAD, -1);
         due.is("FULL", FULL, -2);
         due.is("NO", NO, -3);
-        State[] states = {ChainChoice::new, RefusalsTest::small, RefusalsTest::whole, RefusalsTest::faulty,
+        State[] states = {Tested::new, RefusalsTest::small, RefusalsTest::whole, RefusalsTest::faulty,
             RefusalsTest::full};
         for (State state : states) {
             bad(state);
@@ -36,8 +36,8 @@ public final class RefusalsTest extends Rows {
 
     // ---- states
 
-    private static ChainChoice small() {
-        ChainChoice x = Due.of(7, 7, 7, 7);
+    private static Tested small() {
+        Tested x = Due.of(7, 7, 7, 7);
         x.packer(1);
         x.choose(100, 100);
         x.learn();
@@ -45,8 +45,8 @@ public final class RefusalsTest extends Rows {
         return x;
     }
 
-    private static ChainChoice whole() {
-        ChainChoice x = Due.of(1, 2, 3, 4, 5);
+    private static Tested whole() {
+        Tested x = Due.of(1, 2, 3, 4, 5);
         x.filter(1, 1);
         x.filter(2, 0);
         x.filter(3, 2);
@@ -62,16 +62,16 @@ public final class RefusalsTest extends Rows {
     }
 
     /** The latest unpack() had a FAULT, the choice is gone. */
-    private static ChainChoice faulty() {
-        ChainChoice x = small();
+    private static Tested faulty() {
+        Tested x = small();
         x.alter(4, 255);
         x.unpack();
         x.filter(4, 1);
         return x;
     }
 
-    private static ChainChoice full() {
-        ChainChoice x = new ChainChoice();
+    private static Tested full() {
+        Tested x = new Tested();
         x.fill(300, 3, 2);
         for (int i = 0; i < 4; i++) {
             x.filter(4, i + 1);
@@ -87,7 +87,7 @@ public final class RefusalsTest extends Rows {
     // ---- what can be asked
 
     /** The ends of both rows, all numbers of the choice, what is learned, CHAINS, the place. */
-    private static List<Integer> all(ChainChoice x) {
+    private static List<Integer> all(Tested x) {
         List<Integer> all = new ArrayList<>();
         for (int which = 0; which < 2; which++) {
             all.add(x.size(which));
@@ -122,7 +122,7 @@ public final class RefusalsTest extends Rows {
     }
 
     private static void refused(State state, String name, int answer, Call call) {
-        ChainChoice x = state.make();
+        Tested x = state.make();
         due.is(name, call.on(x), answer);
         List<Integer> got = all(x);
         List<Integer> want = all(state.make());
@@ -176,7 +176,7 @@ public final class RefusalsTest extends Rows {
         refused(state, "share(1, 0)", 1, RefusalsTest::throwing);
     }
 
-    private static int throwing(ChainChoice x) {
+    private static int throwing(Tested x) {
         try {
             x.share(1, 0);
             return 0;
@@ -186,12 +186,12 @@ public final class RefusalsTest extends Rows {
     }
 
     private static void noes() {
-        refused(ChainChoice::new, "learn()", NO, ChainChoice::learn);
-        refused(ChainChoice::new, "told(0)", NO, x -> x.told(0));
-        refused(ChainChoice::new, "learned(0)", NO, x -> x.learned(0));
-        refused(ChainChoice::new, "chain(0, 0)", NO, x -> x.chain(0, 0));
-        refused(ChainChoice::new, "place()", NO, ChainChoice::place);
-        refused(RefusalsTest::faulty, "learn()", NO, ChainChoice::learn);
+        refused(Tested::new, "learn()", NO, Tested::learn);
+        refused(Tested::new, "told(0)", NO, x -> x.told(0));
+        refused(Tested::new, "learned(0)", NO, x -> x.learned(0));
+        refused(Tested::new, "chain(0, 0)", NO, x -> x.chain(0, 0));
+        refused(Tested::new, "place()", NO, Tested::place);
+        refused(RefusalsTest::faulty, "learn()", NO, Tested::learn);
         refused(RefusalsTest::small, "packer(1)", NO, x -> x.packer(1));
         for (int kind = 1; kind <= 4; kind++) {
             int told = kind;
@@ -215,7 +215,7 @@ public final class RefusalsTest extends Rows {
         refused(RefusalsTest::full, "fill(301, 1, 0)", BAD, x -> x.fill(301, 1, 0));
         refused(RefusalsTest::full, "fill(1, 1, 4)", BAD, x -> x.fill(1, 1, 4));
         refused(RefusalsTest::full, "filter(3, 1)", BAD, x -> x.filter(3, 1));
-        refused(ChainChoice::new, "told(6)", BAD, x -> x.told(6));
-        refused(ChainChoice::new, "learned(64)", BAD, x -> x.learned(64));
+        refused(Tested::new, "told(6)", BAD, x -> x.told(6));
+        refused(Tested::new, "learned(64)", BAD, x -> x.learned(64));
     }
 }

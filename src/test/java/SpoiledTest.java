@@ -31,7 +31,7 @@ public final class SpoiledTest extends Rows {
     }
 
     private static void packs(int[] text) {
-        ChainChoice x = new ChainChoice();
+        Tested x = new Tested();
         Model m = new Model();
         tell(x, m);
         put(x, m, text);
@@ -46,7 +46,7 @@ public final class SpoiledTest extends Rows {
         due.row("the text again", x, 0, text);
     }
 
-    private static void tell(ChainChoice x, Model m) {
+    private static void tell(Tested x, Model m) {
         for (int kind = 1; kind <= 4; kind++) {
             x.packer(kind);
             m.packer(kind);
@@ -57,14 +57,14 @@ public final class SpoiledTest extends Rows {
         m.filter(1, 2);
     }
 
-    private static void put(ChainChoice x, Model m, int[] text) {
+    private static void put(Tested x, Model m, int[] text) {
         for (int b : text) {
             x.add(b);
             m.add(b);
         }
     }
 
-    private static void sameRow(ChainChoice x, Model m, int which) {
+    private static void sameRow(Tested x, Model m, int which) {
         due.is("size(" + which + ")", x.size(which), m.size(which));
         boolean like = true;
         for (int i = 0; i < m.size(which); i++) {
@@ -92,16 +92,16 @@ public final class SpoiledTest extends Rows {
     private static void spoils(int[] text, int k) {
         due.promise("every byte of OUT, chain " + k);
         Model m = new Model();
-        ChainChoice x = null;
+        Tested x = null;
         Model first = new Model();
-        tell(new ChainChoice(), first);
-        put(new ChainChoice(), first, text);
+        tell(new Tested(), first);
+        put(new Tested(), first, text);
         int n = first.pack(k);
         for (int i = 0; i < n; i++) {
             int old = first.octet(1, i);
             for (int b = 0; b < 256; b++) {
                 if (b % BYTES_AN_OBJECT == 0) {
-                    x = new ChainChoice();
+                    x = new Tested();
                     m = new Model();
                     tell(x, m);
                     put(x, m, text);

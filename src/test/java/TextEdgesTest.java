@@ -34,7 +34,7 @@ public final class TextEdgesTest extends Rows {
 
     private static void newObject() {
         due.sentence("No bytes, no FILTERS, no PACKERS but STORED, nothing learned.");
-        ChainChoice x = new ChainChoice();
+        Tested x = new Tested();
         due.is("size(0)", x.size(0), 0);
         due.is("size(1)", x.size(1), 0);
         due.is("octet(0, 0)", x.octet(0, 0), BAD);
@@ -61,6 +61,7 @@ public final class TextEdgesTest extends Rows {
         due.is("forget()", x.forget(), 1);
     }
 
+    /** One object for all of its calls, so that none of those that it is promised for is left out. */
     private static void used512Times() {
         due.sentence("An object is used for at most 512 calls after it has been made");
         ChainChoice x = new ChainChoice();
@@ -78,7 +79,7 @@ public final class TextEdgesTest extends Rows {
 
     private static void upTo300() {
         due.sentence("THE TEXT and OUT are rows of bytes (0 .. 255); THE TEXT has up to 300.");
-        ChainChoice x = new ChainChoice();
+        Tested x = new Tested();
         for (int n = 1; n <= 300; n++) {
             due.is("add()", x.add(n % 256), n);
         }
@@ -94,14 +95,14 @@ public final class TextEdgesTest extends Rows {
 
     private static void clear() {
         due.sentence("THE TEXT is empty (OUT stays): how many bytes it had.");
-        ChainChoice x = Due.of(1, 2, 3);
+        Tested x = Due.of(1, 2, 3);
         x.pack(0);
         due.is("clear()", x.clear(), 3);
         due.is("size(0)", x.size(0), 0);
         due.row("OUT stays", x, 1, 0, 0, 0, 3, 1, 2, 3);
         due.is("unpack()", x.unpack(), 3);
         due.row("the text", x, 0, 1, 2, 3);
-        ChainChoice y = new ChainChoice();
+        Tested y = new Tested();
         y.fill(300, 1, 0);
         due.is("clear() of 300", y.clear(), 300);
         due.is("fill() again", y.fill(300, 1, 0), 300);
@@ -109,7 +110,7 @@ public final class TextEdgesTest extends Rows {
 
     private static void clearEmpty() {
         due.sentence("THE TEXT is empty (OUT stays): how many bytes it had.");
-        ChainChoice x = new ChainChoice();
+        Tested x = new Tested();
         due.is("clear() of none", x.clear(), 0);
         x.add(9);
         due.is("clear() of one", x.clear(), 1);
@@ -120,7 +121,7 @@ public final class TextEdgesTest extends Rows {
 
     private static void addBytes() {
         due.sentence("A byte more: how many there are. BAD, FULL.");
-        ChainChoice x = new ChainChoice();
+        Tested x = new Tested();
         for (int b : of(-1, 256, 257, -255, -256, 512, LEAST, MOST)) {
             due.is("add(" + b + ")", x.add(b), BAD);
         }
@@ -136,7 +137,7 @@ public final class TextEdgesTest extends Rows {
 
     private static void addFull() {
         due.sentence("A byte more: how many there are. BAD, FULL.");
-        ChainChoice x = new ChainChoice();
+        Tested x = new Tested();
         x.fill(299, 1, 0);
         due.is("add(9) to 299", x.add(9), 300);
         due.is("add(8) to 300", x.add(8), FULL);
@@ -150,12 +151,12 @@ public final class TextEdgesTest extends Rows {
         due.sentence("n (1 .. 300) bytes more");
         for (int how = 0; how < 4; how++) {
             for (int n : of(0, -1, 301, 302, LEAST, MOST)) {
-                ChainChoice x = new ChainChoice();
+                Tested x = new Tested();
                 due.is("fill(" + n + ", 1, " + how + ")", x.fill(n, 1, how), BAD);
                 due.is("size(0)", x.size(0), 0);
             }
             for (int n : of(1, 2, 299, 300)) {
-                ChainChoice x = new ChainChoice();
+                Tested x = new Tested();
                 due.is("fill(" + n + ", 1, " + how + ")", x.fill(n, 1, how), n);
                 due.is("size(0)", x.size(0), n);
             }
@@ -165,7 +166,7 @@ public final class TextEdgesTest extends Rows {
     private static void fillFull() {
         due.sentence("How many there are. BAD, FULL: not all have room.");
         for (int how = 0; how < 4; how++) {
-            ChainChoice x = Due.of(9);
+            Tested x = Due.of(9);
             due.is("fill(300) of 1", x.fill(300, 1, how), FULL);
             due.is("size(0)", x.size(0), 1);
             due.is("fill(299) of 1", x.fill(299, 1, how), 300);
@@ -176,7 +177,7 @@ public final class TextEdgesTest extends Rows {
             due.is("fill(1) of 300, how 4", x.fill(1, 1, 4), BAD);
             due.is("the first stays", x.octet(0, 0), 9);
         }
-        ChainChoice y = new ChainChoice();
+        Tested y = new Tested();
         y.fill(250, 1, 2);
         due.is("fill(51) of 250", y.fill(51, 1, 2), FULL);
         due.is("fill(50) of 250", y.fill(50, 1, 2), 300);
@@ -185,14 +186,14 @@ public final class TextEdgesTest extends Rows {
     private static void fillHow() {
         due.sentence("how = 0 z modulo 256 each; 1 z modulo 4; 2 a byte z modulo 8");
         for (int how : of(-1, 4, 5, LEAST, MOST)) {
-            ChainChoice x = new ChainChoice();
+            Tested x = new Tested();
             due.is("fill(1, 1, " + how + ")", x.fill(1, 1, how), BAD);
             due.is("size(0)", x.size(0), 0);
         }
         // Seed 1: z = 16838, 38526, 10113, 50283, 63819, 38395, 55778, 40187.
         int[][] rows = {{198, 126, 129, 107, 75, 251, 226, 251}, {2, 2, 1, 3, 3, 3, 2, 3}};
         for (int how = 0; how < 2; how++) {
-            ChainChoice x = new ChainChoice();
+            Tested x = new Tested();
             x.fill(8, 1, how);
             due.row("how = " + how, x, 0, rows[how]);
         }
@@ -208,7 +209,7 @@ public final class TextEdgesTest extends Rows {
                 // The product is below 2^63, so that nothing is lost here.
                 want[i] = (int) (x / 65536 % 256);
             }
-            ChainChoice y = new ChainChoice();
+            Tested y = new Tested();
             y.fill(300, seed, 0);
             due.row("seed " + seed, y, 0, want);
         }
@@ -219,12 +220,12 @@ public final class TextEdgesTest extends Rows {
         // Seed 1: 6 once, 6 eight times, 1 once, 3 and so on.
         int[] want = {6, 6, 6, 6, 6, 6, 6, 6, 6, 1, 3, 3};
         for (int n = 1; n <= want.length; n++) {
-            ChainChoice x = new ChainChoice();
+            Tested x = new Tested();
             due.is("fill(" + n + ", 1, 2)", x.fill(n, 1, 2), n);
             due.row("of " + n, x, 0, java.util.Arrays.copyOf(want, n));
         }
         // What was cut off does not come with the next fill().
-        ChainChoice y = new ChainChoice();
+        Tested y = new Tested();
         y.fill(3, 1, 2);
         y.fill(3, 1, 2);
         due.row("twice", y, 0, 6, 6, 6, 6, 6, 6);
@@ -234,7 +235,7 @@ public final class TextEdgesTest extends Rows {
 
     private static void fillByteBefore() {
         due.sentence("3 the byte before (0 at first, of these n) and z modulo 4, modulo 256.");
-        ChainChoice x = Due.of(100);
+        Tested x = Due.of(100);
         x.fill(4, 1, 3);
         x.fill(4, 1, 3);
         // Seed 1: 2, 2, 1, 3 are added; neither 100 nor 8 is the byte before the first.
@@ -243,8 +244,8 @@ public final class TextEdgesTest extends Rows {
 
     private static void fillModulo() {
         due.sentence("3 the byte before (0 at first, of these n) and z modulo 4, modulo 256.");
-        ChainChoice x = new ChainChoice();
-        ChainChoice steps = new ChainChoice();
+        Tested x = new Tested();
+        Tested steps = new Tested();
         x.fill(300, 1, 3);
         // The same draws modulo 4, one by one.
         steps.fill(300, 1, 1);
@@ -258,7 +259,7 @@ public final class TextEdgesTest extends Rows {
 
     private static void size() {
         due.sentence("How many bytes THE TEXT has (which = 0), OUT has (1). BAD.");
-        ChainChoice x = Due.of(1, 2);
+        Tested x = Due.of(1, 2);
         x.pack(0);
         x.add(3);
         due.is("size(0)", x.size(0), 3);
@@ -270,7 +271,7 @@ public final class TextEdgesTest extends Rows {
 
     private static void octet() {
         due.sentence("Byte i of THE TEXT (which = 0), of OUT (1). BAD.");
-        ChainChoice x = Due.of(1, 255);
+        Tested x = Due.of(1, 255);
         x.pack(0);
         x.add(3);
         due.is("octet(0, 0)", x.octet(0, 0), 1);
@@ -295,7 +296,7 @@ public final class TextEdgesTest extends Rows {
 
     private static void pack() {
         due.sentence("OUT is THE TEXT PACKED by a CHAIN: how many bytes. BAD.");
-        ChainChoice x = Due.of(5, 5);
+        Tested x = Due.of(5, 5);
         for (int k : of(-1, 1, 2, LEAST, MOST)) {
             due.is("pack(" + k + ")", x.pack(k), BAD);
         }
@@ -316,7 +317,7 @@ public final class TextEdgesTest extends Rows {
 
     private static void packLongest() {
         due.sentence("OUT is THE TEXT PACKED by a CHAIN: how many bytes. BAD.");
-        ChainChoice x = new ChainChoice();
+        Tested x = new Tested();
         for (int i = 0; i < 300; i++) {
             x.add(i % 256);
         }
@@ -340,7 +341,7 @@ public final class TextEdgesTest extends Rows {
 
     private static void packShorter() {
         due.sentence("OUT is THE TEXT PACKED by a CHAIN: how many bytes. BAD.");
-        ChainChoice x = Due.of(many(7, 300));
+        Tested x = Due.of(many(7, 300));
         x.packer(1);
         due.is("pack(0)", x.pack(0), 304);
         due.is("pack(1)", x.pack(1), 10);
@@ -350,7 +351,7 @@ public final class TextEdgesTest extends Rows {
 
     private static void alter() {
         due.sentence("A byte of OUT becomes another one: what it was. BAD.");
-        ChainChoice x = Due.of(8, 9);
+        Tested x = Due.of(8, 9);
         x.pack(0);
         due.is("alter(0, 255)", x.alter(0, 255), 0);
         due.is("alter(0, 0)", x.alter(0, 0), 255);
@@ -369,14 +370,14 @@ public final class TextEdgesTest extends Rows {
 
     private static void alterEmpty() {
         due.sentence("A byte of OUT becomes another one: what it was. BAD.");
-        ChainChoice x = Due.of(8, 9);
+        Tested x = Due.of(8, 9);
         due.is("alter(0, 0) of none", x.alter(0, 0), BAD);
         due.is("size(1)", x.size(1), 0);
     }
 
     private static void cut() {
         due.sentence("OUT keeps its first n bytes: how many are gone. BAD.");
-        ChainChoice x = Due.of(8, 9);
+        Tested x = Due.of(8, 9);
         x.pack(0);
         for (int n : of(-1, 7, 8, LEAST, MOST)) {
             due.is("cut(" + n + ")", x.cut(n), BAD);
@@ -394,7 +395,7 @@ public final class TextEdgesTest extends Rows {
 
     private static void cutEmpty() {
         due.sentence("OUT keeps its first n bytes: how many are gone. BAD.");
-        ChainChoice x = new ChainChoice();
+        Tested x = new Tested();
         due.is("cut(0)", x.cut(0), 0);
         due.is("cut(1)", x.cut(1), BAD);
         due.is("cut(-1)", x.cut(-1), BAD);
@@ -402,7 +403,7 @@ public final class TextEdgesTest extends Rows {
 
     private static void cutIsGone() {
         due.sentence("OUT keeps its first n bytes: how many are gone. BAD.");
-        ChainChoice x = Due.of(8, 9);
+        Tested x = Due.of(8, 9);
         x.pack(0);
         x.cut(4);
         due.is("octet(1, 4)", x.octet(1, 4), BAD);

@@ -14,7 +14,7 @@ public final class TextTest {
 
     private static void newObject() {
         due.promise("1 new");
-        ChainChoice x = new ChainChoice();
+        Tested x = new Tested();
         due.is("size(0)", x.size(0), 0);
         due.is("size(1)", x.size(1), 0);
         due.is("chains()", x.chains(), 1);
@@ -29,14 +29,14 @@ public final class TextTest {
         due.is("BAD", BAD, -1);
         due.is("FULL", FULL, -2);
         due.is("NO", NO, -3);
-        ChainChoice other = new ChainChoice();
+        Tested other = new Tested();
         x.add(1);
         due.is("another's size(0)", other.size(0), 0);
     }
 
     private static void clear() {
         due.promise("2 clear");
-        ChainChoice x = Due.of(1, 2, 3);
+        Tested x = Due.of(1, 2, 3);
         x.pack(0);
         x.choose(100, 100);
         x.learn();
@@ -51,7 +51,7 @@ public final class TextTest {
 
     private static void add() {
         due.promise("3 add");
-        ChainChoice x = new ChainChoice();
+        Tested x = new Tested();
         due.is("add(-1)", x.add(-1), BAD);
         due.is("add(256)", x.add(256), BAD);
         due.is("add(least)", x.add(Integer.MIN_VALUE), BAD);
@@ -71,7 +71,7 @@ public final class TextTest {
 
     private static void fill() {
         due.promise("4 fill");
-        ChainChoice x = new ChainChoice();
+        Tested x = new Tested();
         due.is("fill(0, 1, 0)", x.fill(0, 1, 0), BAD);
         due.is("fill(-1, 1, 0)", x.fill(-1, 1, 0), BAD);
         due.is("fill(301, 1, 0)", x.fill(301, 1, 0), BAD);
@@ -99,7 +99,7 @@ public final class TextTest {
 
     /** Seed 1 by hand: x = 1103527590, 2524885223, 662824084, 3295386010; z = 16838, 38526, 10113, 50283. */
     private static void seedOne() {
-        ChainChoice x = new ChainChoice();
+        Tested x = new Tested();
         x.fill(4, 1, 0);
         x.fill(4, 1, 1);
         x.fill(4, 1, 3);
@@ -111,7 +111,7 @@ public final class TextTest {
     }
 
     private static void filled(int n, int seed, int how) {
-        ChainChoice x = Due.of(77, 78);
+        Tested x = Due.of(77, 78);
         int[] want = new int[n + 2];
         want[0] = 77;
         want[1] = 78;
@@ -135,7 +135,7 @@ public final class TextTest {
 
     private static void sizeAndOctet() {
         due.promise("5 size, 6 octet");
-        ChainChoice x = Due.of(4, 5, 6);
+        Tested x = Due.of(4, 5, 6);
         x.pack(0);
         x.add(7);
         due.is("size(0)", x.size(0), 4);

@@ -209,7 +209,7 @@ public final class UnpackTest {
     private static void afterFault() {
         due.promise("21 unpack: once more");
         // A FAULT amid the bits of a byte; then the same OUT without it.
-        ChainChoice x = Due.withOut(0, 3, 0, 9, 0, 7, 1, 16, 0);
+        Tested x = Due.withOut(0, 3, 0, 9, 0, 7, 1, 16, 0);
         due.is("unpack()", x.unpack(), -14);
         due.is("place()", x.place(), 7);
         x.alter(7, 0);
@@ -240,7 +240,7 @@ public final class UnpackTest {
 
     private static void latest() {
         due.promise("22 place");
-        ChainChoice x = Due.of(1, 2, 3);
+        Tested x = Due.of(1, 2, 3);
         due.is("place()", x.place(), NO);
         x.pack(0);
         x.cut(5);
